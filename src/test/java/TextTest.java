@@ -79,6 +79,18 @@ public final class TextTest {
 
     private static void insurerFaults() {
         bad("when force above 1 do end;", false, 1, 0);
+        bad("box 30 0 0 0 from 0 to 0;", false, 2, 4);
+        bad("box 0 20 0 0 from 0 to 0;", false, 2, 6);
+        bad("box 0 0 0 0 from 360 to 0;", false, 2, 17);
+        bad("box 0 0 0 0;", false, 1, 11);
+        bad("box 0 0 0 0 from 0;", false, 1, 18);
+        bad("crewz 1;", false, 1, 0);
+        bad("drew 1;", false, 1, 0);
+        bad("crew {1;", false, 1, 5);
+        bad("crew 1:;", false, 1, 6);
+        bad("crew `1;", false, 1, 5);
+        bad("crew /1;", false, 1, 5);
+        bad("crew 1\r;", false, 1, 6);
         bad("box 0 0 30 0 from 0 to 0;", false, 2, 8);
         bad("box 0 0 0 20 from 0 to 0;", false, 2, 10);
         bad("box 29 19 29 19 from 359 to 360;", false, 2, 28);

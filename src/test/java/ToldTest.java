@@ -131,6 +131,8 @@ public final class ToldTest {
         Check.due("boat 6", x.water(6, 1), -2);
         Check.due("boat -1", x.water(-1, 1), -2);
         Check.due("boat's water", x.boat(0, 0), 7);
+        Check.due("none", x.water(0, 0), 7);
+        Check.due("boat's none", x.boat(0, 0), 0);
     }
 
     private static void lasts() {
