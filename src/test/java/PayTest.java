@@ -11,7 +11,7 @@ public final class PayTest {
     }
 
     private static void edges() {
-        BoatsHome x = new BoatsHome();
+        Desk x = new Desk();
         Check.due("none begun", x.pay(0, 0, 0, 0, 0), STATE);
         int[][] bad = {{-1, 0, 0, 0, 0}, {6, 0, 0, 0, 0}, {0, -1, 0, 0, 0}, {0, 2, 0, 0, 0}, {0, 0, -1, 0, 0},
             {0, 0, 100001, 0, 0}, {0, 0, 0, -1, 0}, {0, 0, 0, 1001, 0}, {0, 0, 0, 0, -1}, {0, 0, 0, 0, 1001}};
@@ -24,7 +24,7 @@ public final class PayTest {
     }
 
     private static void byTheDay() {
-        BoatsHome x = new BoatsHome();
+        Desk x = new Desk();
         Check.insurer(x, 0, "box 0 0 0 0 from 1 to 1;");
         x.begin(0, 0, 0, 2);
         x.place(0, 2900);
@@ -35,7 +35,7 @@ public final class PayTest {
             Check.due("after watch " + k, x.pay(0, 0, 100, 17, 10), wants[k]);
         }
         Check.due("below 0", x.pay(0, 0, 0, 1000, 0), -4000);
-        BoatsHome y = new BoatsHome();
+        Desk y = new Desk();
         y.begin(0, 0, 0, 1);
         y.place(0, 2900);
         for (int k = 0; k < 5; k++) {
@@ -45,7 +45,7 @@ public final class PayTest {
     }
 
     private static void asAWhole() {
-        BoatsHome x = new BoatsHome();
+        Desk x = new Desk();
         Check.insurer(x, 0, "crew 2;");
         Check.steady(x, 0, 10);
         x.begin(0, 0, 0, 1);

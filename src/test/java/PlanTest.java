@@ -1,4 +1,5 @@
-import java.util.Arrays;
+import java.util.ArrayList;
+import java.util.List;
 import java.util.Random;
 
 /** Promises 19 to 23: deliveries, crews, flights, and the plan against all ways tried one by one. */
@@ -8,7 +9,6 @@ public final class PlanTest {
         crewEdges();
         flightEdges();
         plannedEdges();
-        directFlightsAlone();
         aDayOfFlight();
         mostAheadOfCheapest();
         leastRowOfCrews();
@@ -21,7 +21,7 @@ public final class PlanTest {
     }
 
     private static void deliverEdges() {
-        BoatsHome x = new BoatsHome();
+        Desk x = new Desk();
         int[][] bad = {{-1, 0, 1, 0, 0}, {10, 0, 1, 0, 0}, {0, -1, 1, 0, 0}, {0, 10, 1, 0, 0}, {0, 1, 0, 0, 0},
             {0, 1, 201, 0, 0}, {0, 1, 1, -1, 0}, {0, 1, 1, 0, 1000}, {0, 1, 1, 5, 4}, {0, 1, 1, 1000, 1000}};
         for (int[] v : bad) {
@@ -40,7 +40,7 @@ public final class PlanTest {
     }
 
     private static void crewEdges() {
-        BoatsHome x = new BoatsHome();
+        Desk x = new Desk();
         int[][] bad = {{-1, 0, 0}, {4, 0, 0}, {0, -1, 0}, {0, 10, 0}, {0, 0, -1}, {0, 0, 1000}};
         for (int[] v : bad) {
             Check.due("bad crew", x.crew(v[0], v[1], v[2]), -2);
@@ -56,7 +56,7 @@ public final class PlanTest {
     }
 
     private static void flightEdges() {
-        BoatsHome x = new BoatsHome();
+        Desk x = new Desk();
         int[][] bad = {{-1, 0, 0}, {10, 0, 0}, {0, -1, 0}, {0, 10, 0}, {3, 3, 0}, {0, 1, -2}, {0, 1, 10001}};
         for (int[] v : bad) {
             Check.due("bad flight", x.flight(v[0], v[1], v[2]), -2);
@@ -74,7 +74,7 @@ public final class PlanTest {
     }
 
     private static void plannedEdges() {
-        BoatsHome x = new BoatsHome();
+        Desk x = new Desk();
         Check.due("none made", x.planned(0), -9);
         x.deliver(0, 1, 1, 0, 9);
         x.crew(0, 0, 0);
@@ -104,17 +104,8 @@ public final class PlanTest {
         Check.due("FULL tells nothing", x.planned(0), 0);
     }
 
-    private static void directFlightsAlone() {
-        BoatsHome x = new BoatsHome();
-        x.crew(0, 0, 0);
-        x.flight(0, 1, 1);
-        x.flight(1, 2, 1);
-        x.deliver(2, 3, 1, 0, 999);
-        Check.due("by two flights", x.plan(), 0);
-    }
-
     private static void aDayOfFlight() {
-        BoatsHome x = new BoatsHome();
+        Desk x = new Desk();
         x.crew(0, 0, 4);
         x.flight(0, 1, 1);
         x.deliver(1, 0, 3, 0, 5);
@@ -122,7 +113,7 @@ public final class PlanTest {
         Check.due("both", x.plan(), 2);
         Check.due("a day later", x.planned(20), 5);
         Check.due("as soon as it is free", x.planned(21), 8);
-        BoatsHome y = new BoatsHome();
+        Desk y = new Desk();
         y.crew(0, 0, 5);
         y.flight(0, 1, 1);
         y.deliver(1, 0, 3, 0, 5);
@@ -130,7 +121,7 @@ public final class PlanTest {
     }
 
     private static void mostAheadOfCheapest() {
-        BoatsHome x = new BoatsHome();
+        Desk x = new Desk();
         x.crew(0, 0, 0);
         x.deliver(0, 0, 10, 0, 0);
         x.deliver(1, 1, 1, 1, 1);
@@ -142,7 +133,7 @@ public final class PlanTest {
     }
 
     private static void leastRowOfCrews() {
-        BoatsHome x = new BoatsHome();
+        Desk x = new Desk();
         for (int c = 3; c >= 1; c--) {
             x.crew(c, 0, 0);
         }
@@ -162,7 +153,7 @@ public final class PlanTest {
     }
 
     private static void leastOrder() {
-        BoatsHome x = new BoatsHome();
+        Desk x = new Desk();
         x.crew(0, 0, 0);
         x.deliver(0, 0, 5, 3, 100);
         x.deliver(0, 0, 5, 0, 100);
@@ -172,148 +163,39 @@ public final class PlanTest {
     }
 
     private static void againstAllWays(Random random, int n) {
-        BoatsHome x = new BoatsHome();
-        AllWays all = new AllWays(n);
+        Desk x = new Desk();
+        List<int[]> deliveries = new ArrayList<>();
+        int[][] crews = new int[4][];
+        int[][] fares = new int[10][10];
         int ports = 1 + random.nextInt(4);
         int horizon = 10 + random.nextInt(60);
         for (int d = 0; d < n; d++) {
             int first = random.nextInt(horizon);
-            all.deliveries[d] = new int[] {random.nextInt(ports), random.nextInt(ports), 1 + random.nextInt(12), first,
-                first + random.nextInt(horizon)};
-            int[] v = all.deliveries[d];
+            int[] v = {random.nextInt(ports), random.nextInt(ports), 1 + random.nextInt(12), first, first + random.nextInt(horizon)};
+            deliveries.add(v);
             Check.due("deliver", x.deliver(v[0], v[1], v[2], v[3], v[4]), d);
         }
         for (int c = 0; c < 4; c++) {
             if (random.nextInt(3) > 0) {
-                all.crews[c] = new int[] {random.nextInt(ports), random.nextInt(horizon)};
-                x.crew(c, all.crews[c][0], all.crews[c][1]);
+                crews[c] = new int[] {random.nextInt(ports), random.nextInt(horizon)};
+                x.crew(c, crews[c][0], crews[c][1]);
             }
         }
         for (int p = 0; p < ports; p++) {
             for (int q = p + 1; q < ports; q++) {
                 int cost = random.nextInt(4) == 0 ? -1 : random.nextInt(5) * 10;
-                all.fares[p][q] = cost;
-                all.fares[q][p] = cost;
+                fares[p][q] = cost;
+                fares[q][p] = cost;
                 x.flight(p, q, cost);
             }
         }
+        AllWays all = new AllWays(deliveries, crews, fares);
         all.solve();
         Check.due("done of " + n, x.plan(), all.done);
         Check.due("sum of flights", x.planned(0), all.sum);
         for (int d = 0; d < n; d++) {
             Check.due("crew of " + d, x.planned(10 + d), all.row[d] == 4 ? -1 : all.row[d]);
             Check.due("day of " + d, x.planned(20 + d), all.days[d]);
-        }
-    }
-
-    /** Every row of crews, and for each crew every order of what it is given, with no shortcut. */
-    private static final class AllWays {
-        final int n;
-        final int[][] deliveries;
-        final int[][] crews = new int[4][];
-        final int[][] fares = new int[10][10];
-        final int[][] cheapest = new int[4][128];
-        final int[][][] orders = new int[4][128][];
-        int done = -1;
-        int sum;
-        int[] row;
-        int[] days;
-
-        AllWays(int n) {
-            this.n = n;
-            deliveries = new int[n][];
-        }
-
-        void solve() {
-            for (int c = 0; c < 4; c++) {
-                Arrays.fill(cheapest[c], -1);
-                cheapest[c][0] = 0;
-                orders[c][0] = new int[0];
-                if (crews[c] != null) {
-                    tryOrders(c, new int[0]);
-                }
-            }
-            tryRows(new int[n], 0);
-            days = new int[n];
-            Arrays.fill(days, -1);
-            for (int c = 0; c < 4; c++) {
-                walk(c, orders[c][given(row, c)], days);
-            }
-        }
-
-        private void tryOrders(int c, int[] order) {
-            for (int d = 0; d < n; d++) {
-                int next = d;
-                if (Arrays.stream(order).noneMatch(e -> e == next)) {
-                    int[] longer = Arrays.copyOf(order, order.length + 1);
-                    longer[order.length] = d;
-                    int cost = walk(c, longer, new int[n]);
-                    int set = Arrays.stream(longer).map(e -> 1 << e).sum();
-                    if (cost >= 0 && (cheapest[c][set] < 0 || cost < cheapest[c][set])) {
-                        cheapest[c][set] = cost;
-                        orders[c][set] = longer;
-                    }
-                    tryOrders(c, longer);
-                }
-            }
-        }
-
-        /** The cost of an order, or -1 when it can't be; the days are written down. */
-        private int walk(int c, int[] order, int[] starts) {
-            int cost = 0;
-            int port = crews[c] == null ? 0 : crews[c][0];
-            int day = crews[c] == null ? 0 : crews[c][1];
-            for (int d : order) {
-                int[] v = deliveries[d];
-                if (port != v[0]) {
-                    if (fares[port][v[0]] < 0) {
-                        return -1;
-                    }
-                    cost += fares[port][v[0]];
-                    day++;
-                }
-                day = Math.max(day, v[3]);
-                if (day > v[4]) {
-                    return -1;
-                }
-                starts[d] = day;
-                day += v[2];
-                port = v[1];
-            }
-            return cost;
-        }
-
-        private static int given(int[] row, int c) {
-            int set = 0;
-            for (int d = 0; d < row.length; d++) {
-                set |= row[d] == c ? 1 << d : 0;
-            }
-            return set;
-        }
-
-        private void tryRows(int[] tried, int d) {
-            if (d < n) {
-                for (int c = 0; c <= 4; c++) {
-                    tried[d] = c;
-                    tryRows(tried, d + 1);
-                }
-                return;
-            }
-            int cost = 0;
-            int size = 0;
-            for (int c = 0; c < 4; c++) {
-                int set = given(tried, c);
-                if (cheapest[c][set] < 0) {
-                    return;
-                }
-                cost += cheapest[c][set];
-                size += Integer.bitCount(set);
-            }
-            if (size > done || size == done && cost < sum) {
-                done = size;
-                sum = cost;
-                row = tried.clone();
-            }
         }
     }
 }

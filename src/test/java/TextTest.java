@@ -15,7 +15,7 @@ public final class TextTest {
         Check.finish();
     }
 
-    private static void good(int got, int want, BoatsHome x) {
+    private static void good(int got, int want, Desk x) {
         Check.due("good text", got, want);
         Check.due("kind of none", x.fault(0), 0);
         Check.due("place of none", x.fault(1), -1);
@@ -23,7 +23,7 @@ public final class TextTest {
     }
 
     private static void goodTexts() {
-        BoatsHome x = new BoatsHome();
+        Desk x = new Desk();
         good(Check.skipper(x, 0, ""), 0, x);
         good(Check.skipper(x, 0, " \n \n"), 0, x);
         good(Check.skipper(x, 0, "when force above 0 do wait;"), 1, x);
@@ -41,14 +41,13 @@ public final class TextTest {
     }
 
     private static void bad(String text, boolean rules, int kind, int place) {
-        BoatsHome x = new BoatsHome();
+        Desk x = new Desk();
         int got = rules ? Check.skipper(x, 3, text) : Check.insurer(x, 3, text);
         Check.due("'" + text + "'", got, -1);
         Check.due("kind of '" + text + "'", x.fault(0), kind);
         Check.due("place of '" + text + "'", x.fault(1), place);
         Check.due("no more of it", x.fault(2), -1);
         Check.due("nor less", x.fault(-1), -1);
-        Check.due("tape is empty", x.count(3), 0);
     }
 
     private static void skipperFaults() {
@@ -110,7 +109,7 @@ public final class TextTest {
     }
 
     private static void whatStays() {
-        BoatsHome x = new BoatsHome();
+        Desk x = new Desk();
         Check.skipper(x, 0, RULE + RULE);
         Check.insurer(x, 0, BOX + "crew 4;");
         Check.due("bad rules", Check.skipper(x, 0, RULE + RULE + RULE + "oh"), -1);
@@ -128,7 +127,7 @@ public final class TextTest {
     }
 
     private static void wrongBoats() {
-        BoatsHome x = new BoatsHome();
+        Desk x = new Desk();
         Check.skipper(x, 0, "oh");
         Check.tape(x, "oh no");
         Check.due("boat 6", x.skipper(6), -2);
@@ -141,16 +140,23 @@ public final class TextTest {
         Check.due("fault is gone", x.fault(0), 0);
     }
 
-    private static void coverBoxes() {
-        BoatsHome x = new BoatsHome();
+    private static Desk boxed() {
+        Desk x = new Desk();
         Check.insurer(x, 0, "box 7 12 4 10 from 30 to 59; box 20 0 20 0 from 300 to 20; box 9 9 9 9 from 100 to 100;");
+        return x;
+    }
+
+    private static void coverBoxes() {
         for (int column = 0; column < 30; column++) {
+            Desk x = boxed();
             for (int row = 0; row < 20; row++) {
                 boolean in = column >= 4 && column <= 7 && row >= 10 && row <= 12;
                 Check.due("box at " + column + ", " + row, x.covers(0, 100 * column + row, 40, 1, 0), in ? 0 : 1);
             }
         }
+        Desk x = boxed();
         for (int day = 0; day <= 999; day++) {
+            x = x.callsLeft() < 3 ? boxed() : x;
             int date = day % 360;
             Check.due("first box, day " + day, x.covers(0, 510, day, 1, 0), date >= 30 && date <= 59 ? 0 : 1);
             Check.due("over the year, day " + day, x.covers(0, 2000, day, 1, 0), date >= 300 || date <= 20 ? 0 : 1);
@@ -159,7 +165,7 @@ public final class TextTest {
     }
 
     private static void coverEdges() {
-        BoatsHome x = new BoatsHome();
+        Desk x = new Desk();
         Check.insurer(x, 0, "crew 3; force 6;");
         for (int crew = 0; crew <= 9; crew++) {
             for (int force = 0; force <= 9; force++) {
@@ -169,7 +175,7 @@ public final class TextTest {
     }
 
     private static void coverRange() {
-        BoatsHome x = new BoatsHome();
+        Desk x = new Desk();
         int[][] bad = {{-1, 0, 0, 0, 0}, {6, 0, 0, 0, 0}, {0, -1, 0, 0, 0}, {0, 20, 0, 0, 0}, {0, 3000, 0, 0, 0},
             {0, 0, -1, 0, 0}, {0, 0, 1000, 0, 0}, {0, 0, 0, -1, 0}, {0, 0, 0, 10, 0}, {0, 0, 0, 0, -1}, {0, 0, 0, 0, 10}};
         for (int[] c : bad) {

@@ -17,7 +17,7 @@ public final class ToldTest {
     }
 
     private static void newObject() {
-        BoatsHome x = new BoatsHome();
+        Desk x = new Desk();
         for (int b = 0; b < 6; b++) {
             Check.due("new passage", x.passage(b, 0), -9);
             Check.due("new water", x.boat(b, 0), 0);
@@ -40,7 +40,7 @@ public final class ToldTest {
     }
 
     private static void tape() {
-        BoatsHome x = new BoatsHome();
+        Desk x = new Desk();
         for (int k = 1; k <= 40; k++) {
             Check.due("feed " + k, x.feed(0, 0, 0, 0, 0), 20 * k);
         }
@@ -62,7 +62,7 @@ public final class ToldTest {
 
     /** The highest byte first, and the ints in their order. */
     private static void bytes() {
-        BoatsHome x = new BoatsHome();
+        Desk x = new Desk();
         x.feed(0x63726577, 0x20202020, 0x20203720, 0x3b666f72, 0x63652033);
         x.feed(0x3b202020, 0, 0, 0, 0);
         x.end(21);
@@ -73,13 +73,13 @@ public final class ToldTest {
     }
 
     private static void wind() {
-        BoatsHome x = new BoatsHome();
+        Desk x = new Desk();
         for (int zone = 0; zone < 24; zone++) {
             for (int month = 0; month < 12; month++) {
                 Check.due("first wind", x.wind(zone, month, (zone + month) % 8, (zone * month) % 10), 0);
             }
         }
-        BoatsHome y = new BoatsHome();
+        Desk y = new Desk();
         Check.due("wind", y.wind(23, 11, 7, 9), 0);
         Check.due("wind again", y.wind(23, 11, 0, 3), 79);
         Check.due("wind at last", y.wind(23, 11, 5, 0), 3);
@@ -93,7 +93,7 @@ public final class ToldTest {
     }
 
     private static void port() {
-        BoatsHome x = new BoatsHome();
+        Desk x = new Desk();
         Check.due("port", x.port(9, 2919), 0);
         Check.due("port again", x.port(9, 19), 2919);
         Check.due("port 10", x.port(10, 0), -2);
@@ -106,7 +106,7 @@ public final class ToldTest {
     }
 
     private static void speed() {
-        BoatsHome x = new BoatsHome();
+        Desk x = new Desk();
         for (int k = 0; k < 25; k++) {
             Check.due("speed", x.speed(5, k / 5, k % 5, k + 1), 0);
         }
@@ -123,7 +123,7 @@ public final class ToldTest {
     }
 
     private static void water() {
-        BoatsHome x = new BoatsHome();
+        Desk x = new Desk();
         Check.due("water", x.water(0, 10000), 0);
         Check.due("water again", x.water(0, 7), 10000);
         Check.due("too much", x.water(0, 10001), -2);
@@ -136,7 +136,7 @@ public final class ToldTest {
     }
 
     private static void lasts() {
-        BoatsHome x = new BoatsHome();
+        Desk x = new Desk();
         Check.due("lasts", x.lasts(1, 3, 0), 10000);
         Check.due("lasts again", x.lasts(1, 3, 10000), 0);
         Check.due("part 4", x.lasts(1, 4, 1), -2);
@@ -148,7 +148,7 @@ public final class ToldTest {
     }
 
     private static void counts() {
-        BoatsHome x = new BoatsHome();
+        Desk x = new Desk();
         Check.skipper(x, 5, "when day above 1 do end;when day above 2 do end;");
         Check.insurer(x, 5, "box 0 0 1 1 from 0 to 1; crew 3;");
         x.feed(1, 2, 3, 4, 5);
