@@ -10,6 +10,7 @@ public final class CountEdgeTest {
         "feed 1 2 3 4 5", "end 781"};
 
     public static void main(String[] args) {
+        its512thCall();
         watchesWorked();
         deliveriesAndCrews();
         bytesOfTheTape();
@@ -20,6 +21,16 @@ public final class CountEdgeTest {
         refusedBehindAFullLog();
         askingChangesNothing();
         Check.finish();
+    }
+
+    private static void its512thCall() {
+        Check.run("An object is used for at most 512 calls", "begin 0 0 0 1 = 1", "place 0 900 = 1", "508* sail 0 1 = 1", "count 0 = 508", "passage 0 1 = 508");
+        Desk x = Check.run("An object is used for at most 512 calls, plans of all that can be told", "crew 0 0 0 = 1", "crew 1 1 0 = 1", "crew 2 0 3 = 1",
+            "crew 3 1 3 = 1", "7* deliver 0 1 4 0 30");
+        while (x.callsLeft() > 2) {
+            Check.run(x, "flight 0 1 " + x.callsLeft(), "plan = 7");
+        }
+        Check.run(x, "planned 10 = 0");
     }
 
     private static void watchesWorked() {

@@ -1,3 +1,5 @@
+import java.util.Arrays;
+
 /** Each sentence on a bound of THE TAPE, the two texts and their FAULTS (Terms I, promises 2, 3 and 9 to 11). */
 public final class TapeEdgeTest {
     private static final String RULE = "when force above 1 do wait;";
@@ -22,6 +24,7 @@ public final class TapeEdgeTest {
         eachWordOfARule();
         eachLetterCounts();
         tokensLeftOut();
+        tokensSkipped();
         tokensTwice();
         twelveRules();
         twelveBoxes();
@@ -333,6 +336,27 @@ public final class TapeEdgeTest {
         bad("insurer", "crew;", 1, 4);
         bad("insurer", "force;", 1, 5);
         bad("insurer", "crew 1 force 1;", 1, 7);
+    }
+
+    /** From each token on to each later one: the fault is at the later one, if it does not fit there too. */
+    private static void tokensSkipped() {
+        Check.sentence("Terms I: SYNTAX: TOKENS are left out");
+        skipEach("skipper", "when force above 1 do wait ;");
+        skipEach("insurer", "box 0 1 2 3 from 4 to 5 ;");
+        skipEach("insurer", "crew 1 ;");
+    }
+
+    private static void skipEach(String call, String line) {
+        String[] tokens = line.split(" ");
+        for (int k = 0; k < tokens.length; k++) {
+            String ahead = k == 0 ? "" : String.join(" ", Arrays.copyOf(tokens, k)) + " ";
+            for (int j = k + 1; j < tokens.length; j++) {
+                boolean fits = Character.isDigit(tokens[k].charAt(0)) && Character.isDigit(tokens[j].charAt(0));
+                if (!fits) {
+                    bad(call, ahead + String.join(" ", Arrays.copyOfRange(tokens, j, tokens.length)), 1, ahead.length());
+                }
+            }
+        }
     }
 
     private static void tokensTwice() {
