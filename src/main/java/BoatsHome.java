@@ -1003,7 +1003,7 @@ public final class BoatsHome {
 
         /** What it costs a crew at a port to come to where a delivery begins, or NONE. */
         int fareTo(int delivery, int fromPort) {
-            return fares[fromPort * PORTS + from[delivery]];
+            return below(fromPort, PORTS) ? fares[fromPort * PORTS + from[delivery]] : NONE;
         }
 
         /** The day on which a delivery begins if a crew is free at a port from a day on, or NONE. */

@@ -20,6 +20,7 @@ public final class FaceTest {
     public static void main(String[] args) throws Exception {
         constants();
         members();
+        classesInside();
         source();
         Check.finish();
     }
@@ -51,6 +52,35 @@ public final class FaceTest {
         Constructor<?>[] made = BoatsHome.class.getDeclaredConstructors();
         Check.due("constructors", made.length, 1);
         Check.due("final class", Modifier.isFinal(BoatsHome.class.getModifiers()) ? 1 : 0, 1);
+    }
+
+    /** LANGUAGE.md's rules 1, 2 and 11, as far as the compiled classes tell. */
+    private static void classesInside() {
+        List<String> face = new ArrayList<>();
+        for (String call : FACE) {
+            face.add(call.split(" ")[0]);
+        }
+        List<Class<?>> all = new ArrayList<>(Arrays.asList(BoatsHome.class.getDeclaredClasses()));
+        Check.due("classes are at most twelve", all.size() + 1 <= 12 ? 1 : 0, 1);
+        all.add(BoatsHome.class);
+        for (Class<?> one : all) {
+            boolean inside = one != BoatsHome.class;
+            Check.due(one.getName() + " is static", inside && !Modifier.isStatic(one.getModifiers()) ? 1 : 0, 0);
+            Check.due(one.getName() + " is seen", inside && Modifier.isPublic(one.getModifiers()) ? 1 : 0, 0);
+            Check.due("classes inside " + one.getName(), inside ? one.getDeclaredClasses().length : 0, 0);
+            for (Method m : one.getDeclaredMethods()) {
+                boolean borne = (inside || Modifier.isPrivate(m.getModifiers())) && face.contains(m.getName());
+                Check.due(one.getName() + "." + m.getName() + " bears a call's name", borne ? 1 : 0, 0);
+                Check.due(one.getName() + "." + m.getName() + " takes more than seven", m.getParameterCount() > 7 ? 1 : 0, 0);
+            }
+            int fields = 0;
+            for (Field f : one.getDeclaredFields()) {
+                boolean constant = Modifier.isStatic(f.getModifiers());
+                fields += constant ? 0 : 1;
+                Check.due(one.getName() + "." + f.getName() + " is static state", constant && !Modifier.isFinal(f.getModifiers()) ? 1 : 0, 0);
+            }
+            Check.due(one.getName() + " has more than twenty fields", fields > 20 ? 1 : 0, 0);
+        }
     }
 
     private static void source() throws Exception {
